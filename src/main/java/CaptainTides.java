@@ -168,7 +168,6 @@ public final class CaptainTides {
 
     /** Tells the fault of the text. */
     public int fault() {
-        trial.copyFrom(now);
         return text.readInto(trial);
     }
 
@@ -756,8 +755,6 @@ public final class CaptainTides {
             draft = captain.draft;
             pier = captain.home;
             atSea = false;
-            arrivedNow = false;
-            wantsNow = false;
             crossingsMade = 0;
             hoursAground = 0;
             hoursLate = 0;

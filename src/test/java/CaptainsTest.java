@@ -13,6 +13,7 @@ final class CaptainsTest {
         captainTellsErrorsInOrder();
         captainIsAnAct();
         captainsChangesWhatTheTextTells();
+        captainsLeavesTheRest();
         captainsRefusesAFaultyText();
         truth();
         settings();
@@ -120,6 +121,23 @@ final class CaptainsTest {
         check.due("undo of captains", x.undo(), 2);
         check.due("all parts undone", x.captainOf(0, 0) + x.captainOf(0, 3), 0);
         check.due("undone draft of 1", x.captainOf(1, 1), 2);
+    }
+
+    /** A text that tells but a home does the same as captain() with that home. */
+    private static void captainsLeavesTheRest() {
+        CaptainTides x = Check.write(new CaptainTides(), "0:h1");
+        CaptainTides y = Check.write(new CaptainTides(), "0:h1");
+        for (CaptainTides each : new CaptainTides[] {x, y}) {
+            each.set(1, 4);
+            each.set(0, 0);
+            each.truth(7);
+            each.sail(3);
+            each.captain(2, 1, 5);
+            each.lot(321);
+        }
+        check.due("captains", x.captains(), 1);
+        check.due("captain", y.captain(0, 3, 1), 0);
+        check.isTrue("captains() and captain() differ", Check.picture(x).equals(Check.picture(y)));
     }
 
     private static void captainsRefusesAFaultyText() {

@@ -138,6 +138,7 @@ final class ToldTest {
     }
 
     private static void clashes() {
+        check.due("clash of a new object", new CaptainTides().clash(4, 0), 18);
         CaptainTides x = new CaptainTides();
         int[][] due = {{8, 0, 3}, {11, 1, 3}, {12, 1, 6}, {14, 0, 7}, {18, 1, 6}};
         check.due("clashes", x.count(3), due.length);
@@ -164,6 +165,8 @@ final class ToldTest {
         Check.write(x, "2:p0d6f0h1");
         x.captains();
         check.due("the captain 2 is nowhere with another", x.count(3), 4);
+        x.captain(2, 3, 0);
+        check.due("clash told anew", x.clash(0, 2), 7);
         Check.write(x, "0:d1f0;1:d1f3;2:d1f0");
         x.captains();
         int clashes = x.count(3);
