@@ -849,7 +849,9 @@ public final class CaptainTides {
             boolean taken = false;
             for (Ferry ferry : ferries) {
                 wanting += ferry.wantsFrom(pier) ? 1 : 0;
-                taken |= ferry.arrivedAt(pier);
+                if (ferry.arrivedAt(pier)) {
+                    taken = true;
+                }
             }
             boolean byLot = !taken && wanting > 1;
             int winner = byLot ? drawLot(wanting) : 0;

@@ -10,6 +10,10 @@ final class HistoryTest {
         keepAndRestore();
         snapshotIsNoState();
         restoreIsAnAct();
+        restoreOfTheBeginning();
+        fifthStateDropsTheOldest();
+        refusedCallsChangeNothing();
+        nothingToUndoOrRestore();
         check.end();
     }
 
@@ -149,5 +153,108 @@ final class HistoryTest {
         x.restore();
         check.due("undo of restore", x.undo(), 2);
         check.due("day", x.count(0), 2);
+    }
+
+    private static void restoreOfTheBeginning() {
+        CaptainTides x = new CaptainTides();
+        String before = Check.stateOf(x);
+        check.due("keep ahead of the day 0", x.keep(), 0);
+        x.sail(30);
+        x.captain(1, 0, 11);
+        check.due("restore of the beginning", x.restore(), 0);
+        check.isTrue("the beginning is another one", before.equals(Check.stateOf(x)));
+        check.due("restored lots", x.count(7), 0);
+    }
+
+    /** Each act is the fifth one once; behind it the history begins with the state behind the first one. */
+    private static void fifthStateDropsTheOldest() {
+        for (int act = 0; act < 7; act++) {
+            CaptainTides x = Check.write(new CaptainTides(), "0:p0");
+            x.keep();
+            for (int lot = 10; lot < 14; lot++) {
+                x.lot(lot);
+            }
+            check.due("four states", x.count(10), 4);
+            check.isTrue("the act " + act + " is refused", act(x, act) >= 0);
+            check.due("states behind the fifth act " + act, x.count(10), 4);
+            for (int left = 3; left >= 0; left--) {
+                check.due("undo behind the fifth act " + act, x.undo(), left);
+                check.due("lot behind the fifth act " + act, x.count(2), 10 + left);
+            }
+            check.due("undo of none behind the fifth act " + act, x.undo(), -5);
+            check.due("lot behind the fifth act " + act, x.count(2), 10);
+        }
+    }
+
+    private static int act(CaptainTides x, int act) {
+        switch (act) {
+            case 0:
+                return x.captain(0, 0, 1);
+            case 1:
+                return x.captains();
+            case 2:
+                return x.truth(4);
+            case 3:
+                return x.set(0, 0);
+            case 4:
+                return x.lot(4);
+            case 5:
+                return x.sail(1);
+            default:
+                return x.restore();
+        }
+    }
+
+    /** An object with a full history, a snapshot and a text with a fault. */
+    private static CaptainTides full() {
+        CaptainTides x = Check.write(new CaptainTides(), "0:p5;1:d7");
+        x.lot(65536);
+        x.keep();
+        x.captain(0, 2, 23);
+        x.truth(11);
+        x.set(1, 9);
+        x.sail(2);
+        x.captain(2, 3, 1);
+        return x;
+    }
+
+    private static void refusedCallsChangeNothing() {
+        CaptainTides x = full();
+        CaptainTides y = full();
+        int[][] captains = {{-1, 0, 0}, {3, 0, 0}, {0, -1, 0}, {0, 4, 0}, {1, 0, -1}, {1, 0, 12}, {1, 1, 0}, {1, 1, 7},
+            {1, 2, -1}, {1, 2, 24}, {1, 3, -1}, {1, 3, 2}, {2, 3, 1}, {0, 2, 23}};
+        for (int[] row : captains) {
+            check.isTrue("captain is not refused", y.captain(row[0], row[1], row[2]) < 0);
+        }
+        check.due("captains of a text with a fault", y.captains(), -108);
+        check.due("truth", y.truth(-1) + y.truth(12), -4);
+        check.due("truth that is so already", y.truth(y.count(1)), -5);
+        check.due("set", y.set(-1, 0) + y.set(2, 0) + y.set(0, 2) + y.set(0, -1) + y.set(1, 0) + y.set(1, 10), -12);
+        check.due("set that is so already", y.set(0, 1) + y.set(1, 9), -10);
+        check.due("lot", y.lot(-1) + y.lot(65537), -4);
+        check.due("lot that is so already", y.lot(y.count(2)), -5);
+        check.due("sail", y.sail(0) + y.sail(-1) + y.sail(31), -6);
+        check.isTrue("a refused call changed something", Check.picture(x).equals(Check.picture(y)));
+        for (int left = 3; left >= 0; left--) {
+            check.due("undo", x.undo() - y.undo(), 0);
+            check.isTrue("a refused call changed the history", Check.picture(x).equals(Check.picture(y)));
+        }
+        check.due("restore", x.restore() - y.restore(), 0);
+        check.isTrue("a refused call changed the snapshot", Check.picture(x).equals(Check.picture(y)));
+    }
+
+    private static void nothingToUndoOrRestore() {
+        CaptainTides x = Check.write(new CaptainTides(), "0:p5");
+        String before = Check.picture(x);
+        check.due("undo of none", x.undo(), -5);
+        check.due("restore of none", x.restore(), -5);
+        check.due("undo of none again", x.undo(), -5);
+        check.isTrue("NONE changed something", before.equals(Check.picture(x)));
+        check.due("captains", x.captains(), 1);
+        check.due("restore of none behind an act", x.restore(), -5);
+        check.due("undo", x.undo(), 0);
+        check.due("undo of none behind it", x.undo(), -5);
+        check.isTrue("undo leaves something", before.equals(Check.picture(x)));
+        check.due("restore of none behind undo", x.restore(), -5);
     }
 }

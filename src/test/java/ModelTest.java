@@ -5,30 +5,37 @@ final class ModelTest {
     private static final String[] TEXTS = {"0:p1", "1:d6f0;", "2:h1p11d1f20", "0:p10h0;1:p10h0;2:p10h0", "1:f23;0:f24",
         "2:d2d3d4", "0:p3f1;0:d5;0:p4", ":", "1:h", "0:d1f0h0;1:d1f0h0;2:d1f0h0"};
 
+    /** No comparison makes more calls of the object: the longest of these texts is typed with 26. */
+    private static final int MOST_CALLS_AT_ONCE = 34;
+
     private final Chance chance;
     private final CaptainTides x = new CaptainTides();
     private final Model model = new Model();
+    /** Of the object; beyond 512 of them nothing is promised. */
+    private int calls = 0;
 
     private ModelTest(long seed) {
         chance = new Chance(seed);
     }
 
     public static void main(String[] args) {
-        for (int run = 0; run < 400; run++) {
+        for (int run = 0; run < 600; run++) {
             new ModelTest(run).compareRun();
         }
         check.end();
     }
 
     private void compareRun() {
-        for (int i = 0; i < 512; i++) {
+        while (calls + MOST_CALLS_AT_ONCE <= 512) {
             int kind = chance.below(100);
             if (kind < 45) {
                 compareAct();
+                calls++;
             } else if (kind < 55) {
                 compareText();
             } else {
                 compareTold();
+                calls += 2;
             }
         }
     }
@@ -94,16 +101,20 @@ final class ModelTest {
         if (chance.below(3) == 0) {
             char sign = (char) (chance.below(6) == 0 ? chance.below(65536) : 48 + chance.below(12));
             check.due("type " + (int) sign, x.type(sign), model.type(sign));
+            calls++;
         } else {
             if (chance.below(4) > 0) {
                 check.due("clearText", x.clearText(), model.clearText());
             }
             for (char sign : TEXTS[chance.below(TEXTS.length)].toCharArray()) {
                 check.due("type " + sign, x.type(sign), model.type(sign));
+                calls++;
             }
             check.due("captains", x.captains(), model.captains());
+            calls += 2;
         }
         check.due("fault", x.fault(), model.fault());
+        calls++;
     }
 
     private void compareTold() {

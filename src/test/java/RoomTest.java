@@ -9,11 +9,14 @@ final class RoomTest {
     private static int answers = 0;
 
     public static void main(String[] args) {
-        CaptainTides x = Check.write(new CaptainTides(), "0:p1d1f0h0;1:p5d2f3h1;2:h0f0p11d1");
-        everyCall(x);
+        CaptainTides[] objects = new CaptainTides[100];
+        for (int i = 0; i < objects.length; i++) {
+            objects[i] = Check.write(new CaptainTides(), "0:p1d1f0h0;1:p5d2f3h1;2:h0f0p11d1");
+        }
+        everyCall(objects[0]);
         long before = room();
         for (int i = 0; i < 500; i++) {
-            everyCall(x);
+            everyCall(objects[i % objects.length]);
         }
         long ofCalls = room() - before;
         check.isTrue("500 rounds of all calls take " + ofCalls + " bytes", ofCalls < 20000);

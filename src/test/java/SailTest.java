@@ -54,7 +54,7 @@ final class SailTest {
     private static void fullAtTheLastDay() {
         CaptainTides x = new CaptainTides();
         for (int i = 0; i < 333; i++) {
-            check.isTrue("sail(30) is refused at the day " + x.count(0), x.sail(30) >= 0);
+            check.isTrue("sail(30) is refused behind " + i + " times", x.sail(30) >= 0);
         }
         check.due("day", x.count(0), 9990);
         check.due("sail 10 of 9", x.sail(10), -3);

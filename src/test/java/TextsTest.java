@@ -14,7 +14,10 @@ final class TextsTest {
         typeTakesSixtyAndAnySign();
         clearTextEmpties();
         textIsNoStateAndTypingNoAct();
+        sixtySignsWithAFault();
+        sixtySignsWithoutAFault();
         faultsByHand();
+        theLaterOneCounts();
         everySignAtEveryPlace();
         textsByChance();
         check.end();
@@ -56,6 +59,54 @@ final class TextsTest {
         check.due("belief", x.captainOf(0, 0), 8);
     }
 
+    /** Eleven parts with a ";" behind each, which are 55 signs, and the end. */
+    private static String withEnd(String end) {
+        return "0:p1;".repeat(11) + end;
+    }
+
+    private static void sixtySignsWithAFault() {
+        String[] ends = {"2:f24", "2:f2;", "2:f2d", "2:h1-", "2:h10", "2:d7p"};
+        int[] faults = {59, 60, 60, 59, 59, 58};
+        for (int i = 0; i < ends.length; i++) {
+            CaptainTides x = Check.write(new CaptainTides(), withEnd(ends[i]));
+            String before = Check.picture(x);
+            check.due("length", x.count(11), 60);
+            check.due("fault behind 55 signs of " + ends[i], x.fault(), faults[i]);
+            check.due("captains behind 55 signs of " + ends[i], x.captains(), -100 - faults[i]);
+            check.isTrue("a text with a fault changed something", before.equals(Check.picture(x)));
+        }
+    }
+
+    private static void sixtySignsWithoutAFault() {
+        CaptainTides x = Check.write(new CaptainTides(), withEnd("2:f23"));
+        for (char sign : new char[] {'0', ';', 'p', 65535}) {
+            check.due("type of a 61st sign", x.type(sign), -3);
+        }
+        check.due("length behind FULL", x.count(11), 60);
+        check.due("fault behind FULL", x.fault(), -5);
+        check.due("captains of twelve parts", x.captains(), 12);
+        check.due("the first part", x.captainOf(0, 0), 1);
+        check.due("the last sign", x.captainOf(2, 2), 23);
+        check.due("clearText of 60", x.clearText(), 60);
+        check.due("clearText of none", x.clearText(), 0);
+        check.due("fault of the empty text", x.fault(), 0);
+        check.due("captains of the empty text", x.captains(), -100);
+        check.due("type behind 60", x.type('7'), 1);
+    }
+
+    private static void theLaterOneCounts() {
+        CaptainTides x = Check.write(new CaptainTides(), "1:d6p11f23h0d1p0f0h1d5p10f20h0");
+        check.due("captains with all of them three times", x.captains(), 1);
+        int[] due = {10, 5, 20, 0};
+        for (int what = 0; what < due.length; what++) {
+            check.due("the later one of " + what, x.captainOf(1, what), due[what]);
+        }
+        Check.write(x, "1:p11d1;2:p3;1:p0");
+        check.due("captains with a captain told twice", x.captains(), 3);
+        check.due("the later part", x.captainOf(1, 0), 0);
+        check.due("the former part", x.captainOf(1, 1), 1);
+    }
+
     private static void clearTextEmpties() {
         CaptainTides x = new CaptainTides();
         check.due("clearText of none", x.clearText(), 0);
@@ -89,12 +140,13 @@ final class TextsTest {
             {"0:f05", 4}, {"0:f19", -5}, {"0:f20", -5}, {"0:f23", -5}, {"0:f24", 4}, {"0:f30", 4}, {"0:f190", 5},
             {"0:h0", -5}, {"0:h1", -5}, {"0:h2", 3}, {"0:h10", 4}, {"0:h01", 4}, {"0:h0;", 5}, {"0:h0;;", 5},
             {"0:h0;3", 5}, {"0:h0;0", 6}, {"0:h0;0:h1", -5}, {"0:h0:", 4}, {"0:h0 ", 4}, {"2:p1d1f1h1", -5},
-            {";0:h0", 0}, {" 0:h0", 0}, {"0:h1x", 4},
+            {";0:h0", 0}, {" 0:h0", 0}, {"0:h1x", 4}, {"0:h0;0:", 7}, {"0:h0;0:p", 8}, {"0:h0;0:p1;", 10},
+            {"0:h0;0:p1d", 10}, {"0:p1;0:p12", 9}, {"0:p0d1", -5}, {"0:f0h0p0", -5}, {"0:p2", -5}, {"0:f2", -5},
+            {"0:f3", -5}, {"0:f9", -5}, {"0:d05", 3}, {"0:h00", 4}, {"0:f00", 4}, {"2:h1", -5}, {"-1:h1", 0},
         };
-        CaptainTides x = new CaptainTides();
         for (Object[] row : faults) {
             String text = (String) row[0];
-            Check.write(x, text);
+            CaptainTides x = Check.write(new CaptainTides(), text);
             check.due("fault of '" + text + "'", x.fault(), (Integer) row[1]);
             check.due("fault told twice", x.fault(), (Integer) row[1]);
         }
@@ -111,8 +163,8 @@ final class TextsTest {
         return BELIEFS.matcher(text).matches() ? -5 : text.length();
     }
 
-    private static void compare(CaptainTides x, String text) {
-        Check.write(x, text);
+    private static void compare(String text) {
+        CaptainTides x = Check.write(new CaptainTides(), text);
         int fault = faultOf(text);
         check.due("fault of '" + text + "'", x.fault(), fault);
         if (fault != -5) {
@@ -123,18 +175,16 @@ final class TextsTest {
     }
 
     private static void everySignAtEveryPlace() {
-        CaptainTides x = new CaptainTides();
         String text = "0:p11d6f23h1p0;2:f19f0f9d1;1:h0p10";
         for (int i = 0; i <= text.length(); i++) {
             for (char sign = 0; sign < 256; sign++) {
-                compare(x, text.substring(0, i) + sign);
-                compare(x, text.substring(0, i) + sign + text.substring(Math.min(i + 1, text.length())));
+                compare(text.substring(0, i) + sign);
+                compare(text.substring(0, i) + sign + text.substring(Math.min(i + 1, text.length())));
             }
         }
     }
 
     private static void textsByChance() {
-        CaptainTides x = new CaptainTides();
         Chance chance = new Chance(7);
         for (int i = 0; i < 20000; i++) {
             StringBuilder text = new StringBuilder();
@@ -147,7 +197,7 @@ final class TextsTest {
                     text.setLength(text.length() - 1);
                 }
             }
-            compare(x, text.toString());
+            compare(text.toString());
         }
     }
 }

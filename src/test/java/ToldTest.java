@@ -7,13 +7,17 @@ final class ToldTest {
     public static void main(String[] args) {
         captainOf();
         printed();
+        printedWhereTheLevelIsTheDraft();
+        printedThreeHoursLater();
         timetablesThatEnd();
+        noCrossingsAndNoClashes();
         levels();
         uses();
         clashes();
         hours();
         count();
         made();
+        madeAllAndNone();
         nothingToldChangesAnything();
         check.end();
     }
@@ -55,6 +59,66 @@ final class ToldTest {
         check.due("printed 0 4 2", x.printed(0, 4, 2), -1);
     }
 
+    /** By the phase 0 the level falls to 3 in the hour 3, and rises to 3 in the hour 9. */
+    private static void printedWhereTheLevelIsTheDraft() {
+        CaptainTides x = Check.write(new CaptainTides(), "0:p0d3f3");
+        x.captains();
+        check.due("just the draft, falling", x.printed(0, 0, 0), 3);
+        check.due("just the draft, rising", x.printed(0, 1, 0), 9);
+        x.captain(0, 2, 4);
+        check.due("less than the draft from 4", x.printed(0, 0, 0), 9);
+        x.captain(0, 2, 3);
+        x.captain(0, 1, 4);
+        check.due("one more draft than level", x.printed(0, 0, 0), 10);
+    }
+
+    /** With water for the draft 4 in five hours on end, from 10 to 14: 10 and 13 are printed, and 13 from 11 on. */
+    private static void printedThreeHoursLater() {
+        CaptainTides x = Check.write(new CaptainTides(), "0:p0d4f9");
+        x.captains();
+        dueTimetable(x, 0, 0, 10, 13);
+        x.captain(0, 2, 11);
+        dueTimetable(x, 0, 0, 11, 14);
+        x.captain(0, 2, 12);
+        dueTimetable(x, 0, 0, 12);
+        x.captain(0, 2, 14);
+        dueTimetable(x, 0, 0, 14);
+        x.captain(0, 2, 15);
+        dueTimetable(x, 0, 0);
+    }
+
+    private static void noCrossingsAndNoClashes() {
+        CaptainTides x = Check.write(new CaptainTides(), "0:f22;1:f23;2:f23");
+        x.captains();
+        check.due("no clashes", x.count(3), 0);
+        check.due("no crossings", x.count(4), 0);
+        for (int number = -1; number < 2; number++) {
+            for (int what = -1; what < 4; what++) {
+                check.due("clash of none " + number + " " + what, x.clash(number, what), -1);
+                check.due("printed of none " + number + " " + what, x.printed(0, number, what), -1);
+            }
+        }
+        for (int hour = 0; hour < 24; hour++) {
+            check.due("uses of none", x.uses(0, hour) + x.uses(1, hour), 0);
+        }
+        Check.write(x, "0:p3d6f21h0;1:p3d6f21h1;2:f23");
+        x.captains();
+        check.due("two timetables without a clash", x.count(3), 0);
+        check.due("clash of two timetables", x.clash(0, 0), -1);
+        x.captain(1, 3, 0);
+        check.due("the departure and the arrival clash", x.count(3), 2);
+        int[][] due = {{21, 0, 3}, {23, 1, 3}};
+        for (int i = 0; i < 2; i++) {
+            for (int what = 0; what < 3; what++) {
+                check.due("clash " + i + " " + what, x.clash(i, what), due[i][what]);
+            }
+        }
+        check.due("one clash too many", x.clash(2, 0), -1);
+        check.due("one clash too many, and no such what", x.clash(2, 3), -1);
+        check.due("the last clash, and no such what", x.clash(1, 3), -2);
+        check.due("the use between departure and arrival", x.uses(0, 22) + x.uses(1, 22), 0);
+    }
+
     private static void timetablesThatEnd() {
         CaptainTides x = Check.write(new CaptainTides(), "0:p1d1f0;1:p0d6f13;2:f21p3d6");
         x.captains();
@@ -80,8 +144,8 @@ final class ToldTest {
 
     private static void levels() {
         int[] ofPhase0 = {6, 5, 4, 3, 2, 1, 0, 1, 2, 3, 4, 5};
-        CaptainTides x = new CaptainTides();
         for (int phase = 0; phase < 12; phase++) {
+            CaptainTides x = new CaptainTides();
             x.captain(0, 0, phase);
             x.captain(1, 0, 11 - phase);
             x.truth((phase + 5) % 12);
@@ -95,6 +159,7 @@ final class ToldTest {
                 }
             }
         }
+        CaptainTides x = new CaptainTides();
         for (int far : OUTSIDE) {
             check.due("level " + far, x.level(far, 0, 0), -1);
             check.due("level 0 " + far, x.level(0, far, 0), -1);
@@ -237,12 +302,31 @@ final class ToldTest {
         check.due("made of days without crossings", none.made(), 1.0f);
     }
 
+    private static void madeAllAndNone() {
+        CaptainTides x = Check.write(new CaptainTides(), "0:p3d6f21h0;1:p3d6f21h0;2:f23");
+        x.captains();
+        x.set(0, 0);
+        x.captain(1, 2, 23);
+        x.truth(3);
+        x.sail(1);
+        check.due("made of one of one", x.made(), 1.0f);
+        x.captain(1, 2, 21);
+        x.sail(1);
+        check.due("made of two of three", x.made(), 2.0f / 3.0f);
+        CaptainTides none = Check.write(new CaptainTides(), "0:p3d6f21;1:f23;2:f23");
+        none.captains();
+        none.sail(1);
+        check.due("made of none of one", none.made(), 0.0f);
+        none.undo();
+        check.due("made of none at all", none.made(), 1.0f);
+    }
+
     private static void nothingToldChangesAnything() {
-        CaptainTides x = Check.write(new CaptainTides(), "0:p1;");
-        x.sail(3);
-        x.captain(1, 0, 7);
-        String before = Check.picture(x);
         for (int a = -1; a < 6; a++) {
+            CaptainTides x = Check.write(new CaptainTides(), "0:p1;");
+            x.sail(3);
+            x.captain(1, 0, 7);
+            String before = Check.picture(x);
             for (int b = -1; b < 6; b++) {
                 for (int c = -1; c < 3; c++) {
                     x.printed(a, b, c);
@@ -257,7 +341,7 @@ final class ToldTest {
             x.ifSailed(a);
             x.bestHour(a);
             x.bestPhase(a);
+            check.isTrue("what is told changed something", before.equals(Check.picture(x)));
         }
-        check.isTrue("what is told changed something", before.equals(Check.picture(x)));
     }
 }

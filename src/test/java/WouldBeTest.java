@@ -8,7 +8,9 @@ final class WouldBeTest {
         learnersAsASet();
         bestHour();
         bestHourOfSeveral();
+        bestHourAtItsEnds();
         bestPhase();
+        bestPhaseAtItsEnds();
         bestsAreTheBest();
         check.end();
     }
@@ -27,10 +29,17 @@ final class WouldBeTest {
     }
 
     private static void nextDayIsAsItIsSailed() {
-        CaptainTides x = new CaptainTides();
-        int[] counts = {5, 6, 8, 9, 7};
         Chance chance = new Chance(3);
-        for (int day = 0; day < 300; day++) {
+        for (int i = 0; i < 20; i++) {
+            fifteenDaysAreAsTheyAreSailed(chance);
+        }
+    }
+
+    private static void fifteenDaysAreAsTheyAreSailed(Chance chance) {
+        CaptainTides x = new CaptainTides();
+        x.lot(chance.below(65537));
+        int[] counts = {5, 6, 8, 9, 7};
+        for (int day = 0; day < 15; day++) {
             int[] told = new int[6];
             int[] before = new int[5];
             int[] lessons = new int[3];
@@ -104,6 +113,16 @@ final class WouldBeTest {
         check.due("bestHour 0 among clashes", x.bestHour(0), 0);
     }
 
+    /** At 21 the captains 1 and 2 hold both piers, and the captain 0 has a crossing at 21 from each hour up to 21. */
+    private static void bestHourAtItsEnds() {
+        CaptainTides x = Check.write(new CaptainTides(), "0:p3d6f5h0;1:p3d6f21h0;2:p3d6f21h1");
+        x.captains();
+        check.due("bestHour that prints nothing", x.bestHour(0), 22);
+        Check.write(x, "1:f22;2:f23");
+        x.captains();
+        check.due("bestHour of those from 0 to 9 that print two", x.bestHour(0), 0);
+    }
+
     private static void bestPhase() {
         CaptainTides x = Check.write(new CaptainTides(), "0:p6d6f0;1:f23;2:f23");
         x.captains();
@@ -126,6 +145,22 @@ final class WouldBeTest {
         for (int captain : new int[] {-1, 3, Integer.MIN_VALUE, Integer.MAX_VALUE}) {
             check.due("bestPhase " + captain, x.bestPhase(captain), -1);
         }
+    }
+
+    /** With water in the hour 13 alone, only the phase 11 prints the crossing in time. */
+    private static void bestPhaseAtItsEnds() {
+        CaptainTides x = Check.write(new CaptainTides(), "0:p4d6f13;1:f23;2:f23");
+        x.captains();
+        x.truth(11);
+        check.due("bestPhase at the upper end", x.bestPhase(0), 11);
+        x.captain(0, 0, 11);
+        check.due("bestPhase that is believed already", x.bestPhase(0), 11);
+        x.captain(0, 2, 12);
+        // From 12 on the phase 0 prints 12, and sails at 13.
+        check.due("bestPhase at the lower end", x.bestPhase(0), 0);
+        x.captain(0, 2, 22);
+        check.due("bestPhase of all that are alike", x.bestPhase(0), 0);
+        check.due("the true phase stays", x.count(1), 11);
     }
 
     private static int bestHourTried(CaptainTides x, int captain) {
